@@ -1027,10 +1027,10 @@ public final class WhyNot {
         /** Whether a kind stands within itself: then not all classes can be taken from without. */
         boolean hasRing() {
             int classes = 0;
-            for (int node = 0; node < count; node++) {
+            for (int node = 0; node < count && node < MAX_NODES; node++) {
                 tally[node] = 0;
             }
-            for (int node = 0; node < count; node++) {
+            for (int node = 0; node < count && node < MAX_NODES; node++) {
                 if (same[node] == node) {
                     classes++;
                     countPart(one[node]);
@@ -1038,13 +1038,13 @@ public final class WhyNot {
                 }
             }
             int taken = 0;
-            for (int node = 0; node < count; node++) {
+            for (int node = 0; node < count && node < MAX_NODES; node++) {
                 if (same[node] == node && tally[node] == 0) {
                     pile[taken] = node;
                     taken++;
                 }
             }
-            for (int i = 0; i < taken && i < count; i++) {
+            for (int i = 0; i < taken && i < MAX_NODES; i++) {
                 taken = takePart(one[pile[i]], taken);
                 taken = takePart(two[pile[i]], taken);
             }
@@ -1073,13 +1073,13 @@ public final class WhyNot {
 
         /** The i-th number of a node's kind, told from the outside inwards. */
         int numberAt(int node, int i) {
-            for (int at = 0; at < count; at++) {
+            for (int at = 0; at < count && at < MAX_NODES; at++) {
                 tally[at] = 0;
             }
             int opens = 0;
             int top = 1;
             pile[0] = node;
-            for (int told = 0; told <= i && told < MAX_NUMBERS && top > 0; told++) {
+            for (int told = 0; told <= i && told < MAX_NUMBERS && top > 0 && top <= pile.length; told++) {
                 top--;
                 int at = chief(pile[top]);
                 if (at == NONE) {

@@ -602,6 +602,16 @@ final class Model {
         return best;
     }
 
+    long cheapestOf(List<Long> mends) {
+        long best = mends.get(0);
+        for (long mend : mends) {
+            if (trustOf(mend) < trustOf(best)) {
+                best = mend;
+            }
+        }
+        return best;
+    }
+
     // ---- hints
 
     record Hint(int place, int sort, int i, Model changed) {

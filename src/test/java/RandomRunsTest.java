@@ -7,6 +7,7 @@ public final class RandomRunsTest {
     private static int wrong = 0;
     private static String about = "";
     private static long asked = 0;
+    private static final int[] hintsOfSort = new int[5];
 
     private static void due(String call, long got, long want) {
         asked++;
@@ -143,6 +144,12 @@ public final class RandomRunsTest {
         }
     }
 
+    private static void trust(WhyNot x, Model m, int p, int t) {
+        due("trust(" + p + ", " + t + ")", x.trust(p, t), m.trust[p]);
+        m.trust[p] = t;
+    }
+
+    /** Some PLACES are trusted much, one of the clash little: CHEAPEST and HINTS are of many sorts. */
     private static void askCheapest(WhyNot x, Model m, Random r) {
         int n = m.places.size();
         if (n > 24) {
@@ -152,31 +159,51 @@ public final class RandomRunsTest {
             due("apply(0)", x.apply(0), -1);
             return;
         }
-        for (int i = 0; i < 3 && n > 0; i++) {
-            int p = r.nextInt(n);
-            int t = 1 + r.nextInt(r.nextBoolean() ? 4 : 100);
-            due("trust(" + p + ", " + t + ")", x.trust(p, t), m.trust[p]);
-            m.trust[p] = t;
-        }
-        long cheapest = x.cheapest();
-        if (n <= 13) {
-            due("cheapest()", cheapest, m.cheapest());
-        } else {
-            due("cheapest() is a MEND", m.clash(m.all() & ~cheapest) ? 1 : 0, 0);
-            for (int i = 0; i < 200; i++) {
-                long other = r.nextLong() & r.nextLong() & r.nextLong() & m.all();
-                int more = m.trustOf(other) - m.trustOf(cheapest);
-                if (more < 0 || more == 0 && other < cheapest) {
-                    due("MEND " + other + " beside cheapest() " + cheapest, m.clash(m.all() & ~other) ? 1 : 0, 1);
+        long core = m.core();
+        for (int round = 0; round < (core == 0 ? 1 : 5); round++) {
+            for (int i = 0; i < n && round < 4; i++) {
+                int p = r.nextInt(n);
+                trust(x, m, p, 1 + r.nextInt(r.nextBoolean() ? 4 : 100));
+            }
+            for (int p = 0; p < n && round > 0 && core != 0; p++) {
+                if ((core >>> p & 1) == 1 && r.nextInt(3) == 0) {
+                    trust(x, m, p, 1 + r.nextInt(3));
                 }
             }
+            if (n <= 12) {
+                due("cheapest()", x.cheapest(), m.cheapestOf(m.mends()));
+            } else if (n <= 14 && round == 0) {
+                due("cheapest()", x.cheapest(), m.cheapest());
+            }
+            askHints(x, m, r);
         }
-        List<Model.Hint> hints = m.hints(cheapest);
-        due("hints()", x.hints(), hints.size());
+    }
+
+    private static void askHints(WhyNot x, Model m, Random r) {
+        int n = m.places.size();
+        if (r.nextInt(4) == 0) {
+            // A FAULT between leaves all as it was.
+            feed(x, "def a as from any from num any 1; def b as row truth c;".getBytes(StandardCharsets.ISO_8859_1));
+            due("program()", x.program(), -1);
+        }
+        List<Model.Hint> hints = m.hints(x.cheapest());
+        if (r.nextBoolean()) {
+            due("hints()", x.hints(), hints.size());
+        }
         for (int i = 0; i < hints.size(); i++) {
             due("hint(" + i + ", 0)", x.hint(i, 0), hints.get(i).place());
             due("hint(" + i + ", 1)", x.hint(i, 1), hints.get(i).sort());
             due("hint(" + i + ", 2)", x.hint(i, 2), hints.get(i).i());
+            hintsOfSort[hints.get(i).sort()]++;
+        }
+        long cheapest = x.cheapest();
+        due("cheapest() is a MEND", m.clash(m.all() & ~cheapest) ? 1 : 0, 0);
+        for (int i = 0; i < 60; i++) {
+            long other = r.nextLong() & r.nextLong() & r.nextLong() & m.all();
+            int more = m.trustOf(other) - m.trustOf(cheapest);
+            if (more < 0 || more == 0 && other < cheapest) {
+                due("MEND " + other + " beside cheapest() " + cheapest, m.clash(m.all() & ~other) ? 1 : 0, 1);
+            }
         }
         due("hint beyond", x.hint(hints.size(), 0), -1);
         due("apply beyond", x.apply(hints.size()), -1);
@@ -188,6 +215,9 @@ public final class RandomRunsTest {
             about = before + "  behind apply(" + i + "), now " + changed.print();
             askPlaces(x, changed);
             askKinds(x, changed, r);
+            if (changed.places.size() <= 8 && r.nextInt(4) == 0) {
+                askSets(x, changed, r);
+            }
             due("hints()", x.hints(), changed.places.size() > 24 ? -2 : 0);
             about = before;
             due("back(2)", x.back(2), n);
@@ -224,20 +254,25 @@ public final class RandomRunsTest {
 
     public static void main(String[] args) {
         int from = args.length > 1 ? Integer.parseInt(args[0]) : 0;
-        int to = args.length > 1 ? Integer.parseInt(args[1]) : 1500;
+        int to = args.length > 1 ? Integer.parseInt(args[1]) : 4000;
         int read = 0;
+        WhyNot x = new WhyNot();
         for (int seed = from; seed < to && wrong < 40; seed++) {
             Random r = new Random(seed * 31L + 7);
-            double[] rates = {0.0, 0.05, 0.1, 0.3};
+            double[] rates = {0.0, 0.02, 0.06, 0.12, 0.3};
             Programs programs = new Programs(seed, rates[r.nextInt(rates.length)]);
-            WhyNot x = new WhyNot();
-            String text = programs.text(2 + r.nextInt(r.nextInt(3) == 0 ? 36 : 11));
+            // Nothing of an earlier PROGRAM may be seen in a later one of the same object.
+            if (r.nextInt(6) == 0) {
+                x = new WhyNot();
+            }
+            String text = programs.text(2 + r.nextInt(r.nextInt(3) == 0 ? 36 : 14));
             if (r.nextInt(4) == 0) {
                 tryText(programs.spoilt(text), x, r);
             }
             tryText(text.getBytes(StandardCharsets.ISO_8859_1), x, r);
             read += x.about(1) > 0 ? 1 : 0;
         }
+        System.out.println("hints by sort: " + java.util.Arrays.toString(hintsOfSort));
         System.out.println(asked + " answers on " + read + " programs, " + wrong + " wrong");
         if (wrong != 0) {
             System.exit(1);
