@@ -732,10 +732,13 @@ final class Model {
     record Both(Object one, Object two) {
     }
 
-    private int worked;
+    /** Of the latest run: how many PLACES were worked out, and within how many others the deepest. */
+    int worked;
+    int deepest;
 
     private Object eval(Node n, Map<Node, Object> names, int within) {
         worked++;
+        deepest = Math.max(deepest, within);
         if (worked > 4000 || within > 150) {
             throw new Stop(-4);
         }
@@ -815,6 +818,7 @@ final class Model {
 
     int[] run() {
         worked = 0;
+        deepest = 0;
         try {
             Object v = eval(defs.get(defs.size() - 1), new HashMap<>(), 0);
             if (v instanceof Integer i) {
