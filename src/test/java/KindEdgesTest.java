@@ -56,6 +56,11 @@ public final class KindEdgesTest {
                 4, 4, 2, 0, 3, 1, 10, 4, 2, 0, 3, 1, 10);
         kind("(each any is open, for itself)", "def a fun x as both any any x;", 0, 4, 3, 10, 11, 3, 10, 11);
         kind("(each any is open, for itself)", "def a as both any any pair 1 yes;", 0, 3, 0, 1);
+        kind("as: it is the told kind", "def a fun x as num x;def b fun x as row truth x;", 0, 4, 0, 0);
+        kind("as: it is the told kind", "def a fun x as num x;def b fun x as row truth x;", 3, 4, 2, 1, 2, 1);
+        kind("as: it is the told kind", "def a fun x as both num truth as any x;", 2, 3, 0, 1);
+        kind("as: it is the told kind", "def a fun x fun y pair as row num x as from truth any y;", 0,
+                4, 2, 0, 4, 4, 1, 10, 3, 2, 0, 4, 1, 10);
         kind("open ones 10, 11, .. as they come in it", "def a fun x fun y fun z pair z pair x y;", 0,
                 4, 10, 4, 11, 4, 12, 3, 12, 3, 10, 11);
         kind("open ones 10, 11, .. as they come in it", "def a fun x fun y fun z pair z pair x y;", 3, 3, 10, 3, 11, 12);
@@ -112,6 +117,9 @@ public final class KindEdgesTest {
         cores("less: both are num, it is truth", "def a add less yes no 1;", 0b00011, 0b00110, 0b01010);
         cores("as: it is the told kind", "def a if as num fun x x 1 2;", 0b000011, 0b000110);
         cores("as: its e's kind is the same", "def a as num yes;", 0b11);
+        cores("as: it is the told kind", "def a pair as num 1 as truth yes;");
+        cores("as: it is the told kind", "def a pair as truth yes as num no;", 0b11000);
+        cores("as: it is the told kind", "def a as num yes;def b as truth no;", 0b0011);
         cores("(each any is open, for itself)", "def a as both any any pair 1 yes;");
         cores("a kind within itself is none", "def a fun x call x x;", 0b1110);
         cores("a kind within itself is none", "def a fun x cons x x;", 0b1110);
@@ -280,6 +288,20 @@ public final class KindEdgesTest {
             Edges.due(s, "left(0) of " + n + " that fit", y.left(0), spent ? -2 : 1);
             Edges.due(s, "sure(0) of " + n + " that fit", y.sure(0), spent ? -2 : 0);
         }
+    }
+
+    private static void leastOfNone() {
+        String s = "An empty PROGRAM: all FITS";
+        WhyNot x = new WhyNot();
+        Edges.due(s, "cores()", x.cores(), 0);
+        Edges.due(s, "coreAt(0)", x.coreAt(0), -1);
+        Edges.due(s, "mends()", x.mends(), 1);
+        Edges.due(s, "mendAt(0)", x.mendAt(0), 0);
+        Edges.due(s, "mendAt(1)", x.mendAt(1), -1);
+        Edges.due(s, "fits()", x.fits(), 1);
+        Edges.due(s, "kind(0, 0)", x.kind(0, 0), -1);
+        Edges.due(s, "meets(0, 0)", x.meets(0, 0), -1);
+        Edges.due(s, "core()", x.core(), 0);
     }
 
     private static void cheapestOnes() {
@@ -604,6 +626,14 @@ public final class KindEdgesTest {
         // the last NAMES mean what they did, the first one another
         Edges.due(s, "kind(5, 0)", name.kind(5, 0), 0);
         Edges.due(s, "kind(6, 0)", name.kind(6, 0), 2);
+        // what stands behind each as goes with it
+        WhyNot moved = blaming(3, "def a as truth yes;def b pair call 1 fun x as row any nil as row num nil;");
+        Edges.due(s, "apply(0)", moved.apply(0), 10);
+        sortsOf(s, moved, 16, 1, 7, 6, 3, 16, 10, 0, 16, 10);
+        Edges.due(s, "kind(3, 0)", moved.kind(3, 0), 2);
+        Edges.due(s, "kind(3, 1)", moved.kind(3, 1), 10);
+        Edges.due(s, "kind(8, 1)", moved.kind(8, 1), 0);
+        Edges.due(s, "kind(0, 0)", moved.kind(0, 0), 1);
         String trust = "TRUST is 1, none are RIGHT then";
         WhyNot x = blaming(2, "def a add 1 yes;");
         x.right(0);
@@ -625,6 +655,7 @@ public final class KindEdgesTest {
         sets();
         core();
         leastOnes();
+        leastOfNone();
         cheapestOnes();
         trust();
         cheapest();

@@ -140,6 +140,30 @@ public final class RunEdgesTest {
 
     // ---- SPENT
 
+    /** A RUN goes on from nothing that another left behind. */
+    private static void oneBehindAnother() {
+        String s = "each e anew";
+        String loop = "def f fun s fun n if less n 6 let r call call s s add n 1 in add r r pair 1 cons 2 nil;";
+        String[] texts = {"def m call call f f 0;", "def m call call f f 6;", "def m call call f f 2;"};
+        int[] heads = {-2, 3, -2};
+        String spent = "def w call fun x call x x fun x call x x;";
+        String pairs = "def f fun s fun n if less n 6 let r call call s s add n 1 in pair r r 1;def m call call f f 0;";
+        WhyNot x = new WhyNot();
+        for (int round = 0; round < 12; round++) {
+            int i = round % 3;
+            Edges.read(x, loop + texts[i]);
+            Edges.due(s, "run(0) of round " + round, x.run(0), heads[i]);
+            Edges.read(x, spent);
+            Edges.due(s, "run(0) of what is SPENT", x.run(0), -4);
+            Edges.due(s, "run(1) of what is SPENT", x.run(1), 0);
+            Edges.read(x, pairs);
+            Edges.due(s, "run(0) of many pairs", x.run(0), 3);
+            Edges.read(x, "def a call fun x add x 1 41;");
+            Edges.due(s, "run(1) first", x.run(1), 42);
+            Edges.due(s, "run(0)", x.run(0), 0);
+        }
+    }
+
     private static int[] held(String sentence, String text) {
         int[] want = new Model(Edges.bytes(text)).run();
         run(sentence, text, want[0], want[1]);
@@ -267,6 +291,7 @@ public final class RunEdgesTest {
         otherHeads();
         whatComesFirst();
         wrapping();
+        oneBehindAnother();
         eachSortCounts();
         fourThousand();
         oneHundredFifty();

@@ -550,6 +550,110 @@ public final class StateEdgesTest {
         }
     }
 
+    private static final int ONE_ANSWERS = 24;
+
+    /** One question alone, asked ahead of all others. */
+    private static long one(WhyNot x, int which) {
+        switch (which) {
+            case 0:
+                return x.fits();
+            case 1:
+                return x.core();
+            case 2:
+                return x.cores();
+            case 3:
+                return x.coreAt(0);
+            case 4:
+                return x.coreAt(1);
+            case 5:
+                return x.mends();
+            case 6:
+                return x.mendAt(0);
+            case 7:
+                return x.mendAt(1);
+            case 8:
+                return x.left(0);
+            case 9:
+                return x.left(9);
+            case 10:
+                return x.sure(0);
+            case 11:
+                return x.sure(9);
+            case 12:
+                return x.cheapest();
+            case 13:
+                return x.hints();
+            case 14:
+                return x.hint(0, 0);
+            case 15:
+                return x.hint(0, 1);
+            case 16:
+                return x.apply(0);
+            case 17:
+                return x.run(0);
+            case 18:
+                return x.run(1);
+            case 19:
+                return x.kind(0, 0);
+            case 20:
+                return x.kind(x.about(1) - 1, 0);
+            case 21:
+                return x.meets(0, 1);
+            case 22:
+                return x.clashes(3);
+            default:
+                return x.clashes(6);
+        }
+    }
+
+    /** What was asked before a change does not show behind it: asked or not, each answer is that of the changed. */
+    private static void anew(String change, Doing made, Doing changed) {
+        for (int which = 0; which < ONE_ANSWERS; which++) {
+            WhyNot fresh = new WhyNot();
+            made.to(fresh);
+            changed.to(fresh);
+            WhyNot x = new WhyNot();
+            made.to(x);
+            asked(x, new ArrayList<>());
+            changed.to(x);
+            Edges.due("answers are of what is now", "question " + which + " behind " + change, one(x, which), one(fresh, which));
+        }
+    }
+
+    private static void allAnew() {
+        String[] texts = {"", "def a 1;", "def a add 1 yes;", "def a head 1;", "def a add yes no;", "def a call 1 fun x x;",
+            "def a less no 2;", "def a cons 1 2;", "def a pair head 1 head 2;", "def a fun x call x x;",
+            "def a if 1 2 yes;", "def a tail pair 1 2;", "def a let f fun x x in pair call f 1 call f yes;"};
+        for (String before : texts) {
+            for (String behind : texts) {
+                anew("program() of " + behind + " where " + before + " was", x -> Edges.read(x, before), x -> Edges.read(x, behind));
+            }
+            Doing read = x -> Edges.read(x, before);
+            anew("apply(0) of " + before, read, x -> x.apply(0));
+            anew("apply(1) of " + before, read, x -> x.apply(1));
+            anew("trust of " + before, read, x -> x.trust(0, 3));
+            anew("right of " + before, read, x -> x.right(0));
+            anew("right, later, untell of " + before, read, x -> {
+                x.right(1);
+                x.later(5);
+                x.untell(0);
+            });
+            anew("back(0) of " + before, x -> {
+                Edges.read(x, before);
+                x.image(0);
+                x.trust(0, 9);
+                x.apply(0);
+            }, x -> x.back(0));
+            anew("back(0) to what was changed of " + before, x -> {
+                Edges.read(x, before);
+                x.image(1);
+                x.apply(0);
+                x.image(0);
+                x.back(1);
+            }, x -> x.back(0));
+        }
+    }
+
     private static void refused() {
         for (Made made : Made.values()) {
             WhyNot seen = new WhyNot();
@@ -642,6 +746,7 @@ public final class StateEdgesTest {
         behindBack();
         refused();
         refusedWhereFull();
+        allAnew();
         Edges.finish("StateEdgesTest");
     }
 }

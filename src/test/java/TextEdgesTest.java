@@ -540,12 +540,45 @@ public final class TextEdgesTest {
         Edges.fault(none, 4, many(401).length() + 6, many(401) + "def z x;");
         Edges.fault(none, 3, many(401).length() + 4, many(401) + "def a 1;");
         Edges.fault(none, 1, many(401).length(), many(401) + "#");
-        StringBuilder thrice = new StringBuilder("def a 1;");
+        Edges.fault(s, 5, thrice().length(), thrice());
+    }
+
+    /** Each DEF has three times the ASKINGS of the one before, and more: some 8,000. */
+    private static String thrice() {
+        StringBuilder b = new StringBuilder("def a 1;");
         for (char c = 'b'; c <= 'h'; c++) {
             char p = (char) (c - 1);
-            thrice.append("def ").append(c).append(" if ").append(p).append(' ').append(p).append(' ').append(p).append(';');
+            b.append("def ").append(c).append(" if ").append(p).append(' ').append(p).append(' ').append(p).append(';');
         }
-        Edges.fault(s, 5, thrice.length(), thrice.toString());
+        return b.toString();
+    }
+
+    /** The limits are those of one text: nothing is left of the one before, taken or refused. */
+    private static void oneBehindAnother() {
+        String s = "The TAPE is the PROGRAM: what was read before does not count";
+        String defs = "";
+        for (char c = 'a'; c <= 'h'; c++) {
+            defs += "def " + c + " 1;";
+        }
+        String forty = places(39) + "def b 1;";
+        String deep = "def a " + Edges.times(20, "tail ") + "nil;";
+        String kinds = "def a as " + Edges.times(19, "row ") + "num nil;";
+        String[] taken = {defs, forty, deep, kinds, many(400), "def a 1;", ""};
+        int[] counts = {8, 40, 21, 2, 28, 1, 0};
+        String[] refused = {defs + "def i 1;", forty + "def c 1;", "def a tail " + deep.substring(6), kinds + "def b as num 1;",
+            many(401), thrice(), "def a 12345;", "def a 1;def a 2;", "def x y;", "def a as row"};
+        for (int i = 0; i < taken.length; i++) {
+            for (int k = 0; k < refused.length; k++) {
+                WhyNot x = new WhyNot();
+                Edges.due(s, "program() no. " + i, Edges.read(x, taken[i]), counts[i]);
+                Edges.due(s, "program() refused no. " + k, Edges.read(x, refused[k]), -1);
+                Edges.due(s, "about(1)", x.about(1), counts[i]);
+                Edges.due(s, "program() no. " + i + " again", Edges.read(x, taken[i]), counts[i]);
+                Edges.due(s, "program() no. " + i + " once more", Edges.read(x, taken[i]), counts[i]);
+                Edges.due(s, "program() refused no. " + k + " again", Edges.read(x, refused[k]), -1);
+                Edges.due(s, "program() of another", Edges.read(x, taken[(i + k) % 7]), counts[(i + k) % 7]);
+            }
+        }
     }
 
     private static void askingsCounted() {
@@ -627,6 +660,7 @@ public final class TextEdgesTest {
         kindWords();
         faultOrder();
         askings();
+        oneBehindAnother();
         askingsCounted();
         faultAsked();
         placeAsked();
