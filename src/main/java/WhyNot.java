@@ -1790,7 +1790,8 @@ public final class WhyNot {
 
     /** Works out the last DEF's e, on a stack and a store of its own. */
     private static final class Machine {
-        private static final int MAX_CELLS = 2 * MAX_WORKED + 2;
+        /** No PLACE makes more than one: its VALUE, or of a call what the fun's NAME means. */
+        private static final int MAX_CELLS = MAX_WORKED;
         private static final int MAX_FRAMES = MAX_RUN_WITHIN + 1;
 
         int resultHead;

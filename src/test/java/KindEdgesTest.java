@@ -388,6 +388,33 @@ public final class KindEdgesTest {
         Edges.due(s, "cheapest() of none", new WhyNot().cheapest(), 0);
     }
 
+    /** TRUST goes before the number even where the number is the greatest that can be. */
+    private static void cheapestOfLast() {
+        String s = "the MEND of least TRUST; of like ones the least number";
+        // 21 add, 22 yes, 23 no: {21} against {22, 23}
+        WhyNot x = Edges.of("def a " + Edges.times(10, "pair 1 ") + "as any add yes no;");
+        Edges.due(s, "about(1)", x.about(1), 24);
+        int[][] trusts = {{1, 1, 1}, {2, 1, 1}, {3, 1, 1}, {100, 50, 50}, {100, 50, 49}, {100, 49, 50}, {100, 100, 1}};
+        boolean[] both = {false, false, true, false, true, true, false};
+        for (int i = 0; i < trusts.length; i++) {
+            for (int k = 0; k < 3; k++) {
+                x.trust(21 + k, trusts[i][k]);
+            }
+            Edges.due(s, "cheapest() of the last no. " + i, x.cheapest(), both[i] ? 3 << 22 : 1 << 21);
+        }
+        for (int place = 0; place < 24; place++) {
+            x.trust(place, 100);
+        }
+        Edges.due(s, "about(6)", x.about(6), 2400);
+        Edges.due(s, "cheapest() of 100 each", x.cheapest(), 1 << 21);
+        x.trust(22, 1);
+        Edges.due(s, "cheapest() of 100 and 1", x.cheapest(), 1 << 21);
+        x.trust(23, 98);
+        Edges.due(s, "cheapest() of 1 and 98", x.cheapest(), 3 << 22);
+        x.trust(23, 99);
+        Edges.due(s, "cheapest() of 1 and 99", x.cheapest(), 1 << 21);
+    }
+
     // ---- HINTS
 
     private static void hint(String sentence, WhyNot x, int hint, int place, int sort, int i) {
@@ -659,6 +686,7 @@ public final class KindEdgesTest {
         cheapestOnes();
         trust();
         cheapest();
+        cheapestOfLast();
         hintAsked();
         hintSorts();
         manyNames();

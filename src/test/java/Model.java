@@ -506,7 +506,11 @@ final class Model {
     }
 
     long core() {
-        long rest = all();
+        return coreOf(all());
+    }
+
+    private long coreOf(long set) {
+        long rest = set;
         if (!clash(rest)) {
             return 0;
         }
@@ -600,6 +604,37 @@ final class Model {
             }
         }
         return best;
+    }
+
+    private static final int MANY_TRIED = 4000;
+    private long bestFound;
+    private final Set<Long> tried = new HashSet<>();
+
+    /**
+     * Of more PLACES than all sets of can be tried: of each clash that is left one PLACE must be out.
+     * -1 if that takes too long.
+     */
+    long cheapestSearched() {
+        bestFound = all();
+        tried.clear();
+        search(0);
+        return tried.size() < MANY_TRIED ? bestFound : -1;
+    }
+
+    private void search(long out) {
+        int more = trustOf(out) - trustOf(bestFound);
+        if (more > 0 || tried.size() >= MANY_TRIED || !tried.add(out)) {
+            return;
+        }
+        long clash = coreOf(all() & ~out);
+        if (clash == 0 && (more < 0 || out < bestFound)) {
+            bestFound = out;
+        }
+        for (int p = 0; p < places.size(); p++) {
+            if ((clash >>> p & 1) == 1) {
+                search(out | 1L << p);
+            }
+        }
     }
 
     long cheapestOf(List<Long> mends) {

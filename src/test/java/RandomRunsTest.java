@@ -8,6 +8,8 @@ public final class RandomRunsTest {
     private static String about = "";
     private static long asked = 0;
     private static final int[] hintsOfSort = new int[5];
+    /** How often the CHEAPEST of more than 12 PLACES was found by the Model, too. */
+    private static int searchedThrough = 0;
 
     private static void due(String call, long got, long want) {
         asked++;
@@ -172,8 +174,15 @@ public final class RandomRunsTest {
             }
             if (n <= 12) {
                 due("cheapest()", x.cheapest(), m.cheapestOf(m.mends()));
-            } else if (n <= 14 && round == 0) {
-                due("cheapest()", x.cheapest(), m.cheapest());
+            } else {
+                long searched = m.cheapestSearched();
+                if (searched >= 0) {
+                    searchedThrough++;
+                    due("cheapest()", x.cheapest(), searched);
+                }
+                if (n <= 14 && round == 0) {
+                    due("cheapest()", x.cheapest(), m.cheapest());
+                }
             }
             askHints(x, m, r);
         }
@@ -272,7 +281,8 @@ public final class RandomRunsTest {
             tryText(text.getBytes(StandardCharsets.ISO_8859_1), x, r);
             read += x.about(1) > 0 ? 1 : 0;
         }
-        System.out.println("hints by sort: " + java.util.Arrays.toString(hintsOfSort));
+        System.out.println("hints by sort: " + java.util.Arrays.toString(hintsOfSort) + ", cheapest of 13 to 24: "
+                + searchedThrough);
         System.out.println(asked + " answers on " + read + " programs, " + wrong + " wrong");
         if (wrong != 0) {
             System.exit(1);
